@@ -5,6 +5,7 @@ public final class QuestionsTest {
 
     public static void main(String[] args) {
         counts();
+        greatestHeightAnywhere();
         refusedCounts();
         refusedStations();
         lineOfSightBothWays();
@@ -48,6 +49,17 @@ public final class QuestionsTest {
         x.setHeight(1, 9);
         // Station 2 and the cell 1 stand between the others.
         Check.due("count(6) with a wall at 1", 2, () -> x.count(6));
+    }
+
+    private static void greatestHeightAnywhere() {
+        int[] cells = {0, 77, 143};
+        for (int cell : cells) {
+            MirrorTelegraph x = new MirrorTelegraph();
+            x.setHeight(cell, 500);
+            x.setHeight(50, 499);
+            Check.due("count(3) with 500 on cell " + cell, 500, () -> x.count(3));
+            Check.due("count(4) with 500 on cell " + cell, 999, () -> x.count(4));
+        }
     }
 
     private static void refusedCounts() {
@@ -203,6 +215,9 @@ public final class QuestionsTest {
 
     /** The cells that can stand in the light of (5,5), one after the other: the hours that each of them takes. */
     private static void lightOnALine() {
+        dueHoursLostAt(61, 72, 500, 14, 15, 16, 17);
+        dueHoursLostAt(70, 83, 500, 7, 8, 9, 10);
+        dueHoursLostAt(126, 138, 500, 11, 12, 13);
         dueHoursLost(78, 500, 7, 8, 9, 10);
         dueHoursLost(78, 5, 7);
         dueHoursLost(78, 4);
@@ -224,15 +239,19 @@ public final class QuestionsTest {
     }
 
     private static void dueHoursLost(int cell, int height, int... hours) {
+        dueHoursLostAt(65, cell, height, hours);
+    }
+
+    private static void dueHoursLostAt(int place, int cell, int height, int... hours) {
         MirrorTelegraph x = new MirrorTelegraph();
-        x.addStation(65, 0, 2);
+        x.addStation(place, 0, 2);
         x.setHeight(cell, height);
         int want = ALL_SUN;
         for (int hour : hours) {
             want -= 1 << hour;
         }
         int left = want;
-        Check.due("sun of 65 behind cell " + cell + " of " + height, left, () -> x.station(0, 4));
+        Check.due("sun of " + place + " behind cell " + cell + " of " + height, left, () -> x.station(0, 4));
     }
 
     private static void singleMirror() {
@@ -270,6 +289,11 @@ public final class QuestionsTest {
         // At 11: 500 * (5 - 3), at 12: 500 * (0 - 3)
         Check.due("(5, -1) at 11", 0, () -> z.link(0, 1, 11));
         Check.due("(5, -1) at 12", 5, () -> z.link(0, 1, 12));
+        MirrorTelegraph v = pair(65, 42, 0, 0);
+        v.setHeight(42, 500);
+        Check.due("(1, -2) at 7: 500 * (5 - 6) + 500", 5, () -> v.link(0, 1, 7));
+        v.setMast(1, 1);
+        Check.due("(1, -2) at 7: 500 * (5 - 6) + 501", 0, () -> v.link(0, 1, 7));
         MirrorTelegraph w = pair(66, 66 + 12 + 3, 0, 0);
         Check.due("(3, 1) at 13: 500 * (-3 + 3)", 5, () -> w.link(0, 1, 13));
         w.setMast(1, 1);

@@ -10,6 +10,7 @@ public final class TimetableTest {
         refusedTurns();
         workloads();
         digestOfASmallState();
+        digestOfABlockedPair();
         digestTellsStatesApart();
         Check.end();
     }
@@ -161,6 +162,28 @@ public final class TimetableTest {
         long want = hash;
         Check.due("digest()", want, () -> x.digest());
         Check.due("digest() again", want, () -> x.digest());
+    }
+
+    private static void digestOfABlockedPair() {
+        MirrorTelegraph x = new MirrorTelegraph();
+        x.addStation(132, 0, 2);
+        x.addStation(134, 7, 2);
+        x.setHeight(133, 5);
+        // Over the cell between them neither sees the other one: the line is at 3.5 there.
+        int[][] lists = {
+            {2, 0, 0, 5, 5, 2, 0, 0, -1}, new int[133], {5}, new int[10],
+            {132, 0, 2, 0, 262016, 0, 134, 7, 2, 7, 262016, 0},
+            {133, 0, 133, 0},
+            {0}
+        };
+        long hash = 1951;
+        for (int[] list : lists) {
+            for (int value : list) {
+                hash = 31 * hash + value;
+            }
+        }
+        long want = hash;
+        Check.due("digest() of a blocked pair", want, () -> x.digest());
     }
 
     private static void digestTellsStatesApart() {
