@@ -90,7 +90,7 @@ public final class FaceTest {
         Class<?> face = MirrorTelegraph.class;
         Check.same("the class", "public final", Modifier.toString(face.getModifiers()));
         Constructor<?>[] constructors = face.getDeclaredConstructors();
-        Check.due("constructors", 1, () -> constructors.length);
+        Check.same("constructors", "1", "" + constructors.length);
         Check.same("the constructor", "public MirrorTelegraph()", constructors[0].toString());
         for (Field field : face.getDeclaredFields()) {
             boolean none = field.getName().equals("NONE");

@@ -44,22 +44,18 @@ public final class ModelTest {
                 test.call(call);
             }
             Check.same(test.run + ": digest() at the end", Long.toString(test.model.digest()),
-                    Check.outcome(() -> test.program.digest()));
+                    new Step("digest").outcomeOn(test.program));
         }
         Check.end();
     }
 
     private void call(int number) {
         String name = chosenName(number);
-        if (name.equals("workload")) {
-            Check.dueDouble(run + ": workload()", model.workload(), program.workload());
-            return;
-        }
         int[] a = arguments(name);
+        Step step = new Step(name, a);
         String refusal = refusals.of(name, a);
-        String want = refusal == null ? Long.toString(modelAnswer(name, a)) : "throws." + refusal;
-        String what = run + ", call " + number + ": " + name + java.util.Arrays.toString(a);
-        Check.same(what, want, Check.outcome(() -> programAnswer(name, a)));
+        String want = refusal == null ? modelAnswer(name, a) : "throws." + refusal;
+        Check.same(run + ", call " + number + ": " + step, want, step.outcomeOn(program));
     }
 
     private String chosenName(int number) {
@@ -169,9 +165,11 @@ public final class ModelTest {
         return other.firstError() == text.length();
     }
 
-    // ---- the two sides
+    private String modelAnswer(String name, int[] a) {
+        return name.equals("workload") ? Double.toString(model.workload()) : Long.toString(modelNumber(name, a));
+    }
 
-    private long modelAnswer(String name, int[] a) {
+    private long modelNumber(String name, int[] a) {
         switch (name) {
             case "begin": return model.begin();
             case "setHeight": return model.setHeight(a[0], a[1]);
@@ -205,38 +203,6 @@ public final class ModelTest {
             case "busy": return model.busy(a[0], a[1]);
             case "digest": return model.digest();
             default: throw new IllegalStateException("no such call: " + name);
-        }
-    }
-
-    private long programAnswer(String name, int[] a) {
-        switch (name) {
-            case "begin": return program.begin();
-            case "setHeight": return program.setHeight(a[0], a[1]);
-            case "hill": return program.hill(a[0], a[1], a[2]);
-            case "append": return program.append(a[0]);
-            case "clearBuffer": return program.clearBuffer();
-            case "firstError": return program.firstError();
-            case "load": return program.load(a[0]);
-            case "addStation": return program.addStation(a[0], a[1], a[2]);
-            case "setMast": return program.setMast(a[0], a[1]);
-            case "lend": return program.lend(a[0], a[1]);
-            case "addCloud": return program.addCloud(a[0], a[1], a[2], a[3]);
-            case "clearClouds": return program.clearClouds();
-            case "send": return program.send(a[0], a[1], a[2], a[3]);
-            case "cancel": return program.cancel(a[0]);
-            case "reorder": return program.reorder();
-            case "count": return program.count(a[0]);
-            case "station": return program.station(a[0], a[1]);
-            case "blocker": return program.blocker(a[0], a[1]);
-            case "link": return program.link(a[0], a[1], a[2]);
-            case "mastFor": return program.mastFor(a[0], a[1]);
-            case "bestCell": return program.bestCell(a[0]);
-            case "arrival": return program.arrival(a[0], a[1], a[2], a[3]);
-            case "message": return program.message(a[0], a[1]);
-            case "hop": return program.hop(a[0], a[1], a[2]);
-            case "busy": return program.busy(a[0], a[1]);
-            case "digest": return program.digest();
-            default: throw new UnsupportedOperationException("no such call: " + name);
         }
     }
 }
