@@ -1,3 +1,6 @@
+import java.util.regex.Matcher;
+import java.util.regex.Pattern;
+
 /** Promise 7: firstError. */
 public final class Promise07FirstErrorTest extends PromiseTests {
 
@@ -150,6 +153,36 @@ public final class Promise07FirstErrorTest extends PromiseTests {
         for (int code = 33; code <= 126; code++) {
             int due = following.indexOf(code) >= 0 ? before.length() + 1 : before.length();
             new Run().text(before + (char) code).due(due, "firstError");
+        }
+    }
+
+    private static final Pattern TEXT = text("(0|[1-9]\\d?|[1-4]\\d\\d|500)", "([1-9]\\d?|1[0-3]\\d|14[0-4])");
+
+    private static Pattern text(String height, String repeat) {
+        String item = height + "(\\*" + repeat + ")?";
+        return Pattern.compile(item + "(," + item + ")*");
+    }
+
+    /** Whether some text begins with these characters: the pattern fits, or could with more of them. */
+    private static boolean begins(String characters) {
+        Matcher matcher = TEXT.matcher(characters);
+        return matcher.matches() || matcher.hitEnd();
+    }
+
+    @Sentence({ERROR, HEIGHT, REPEAT, "A text of heights is one or more items separated by commas"})
+    static void allShortBuffers() {
+        String signs = "0145*,x";
+        int buffers = 7 * 7 * 7 * 7 * 7;
+        for (int number = 0; number < buffers; number++) {
+            StringBuilder text = new StringBuilder();
+            for (int rest = number; text.length() < 5; rest /= 7) {
+                text.append(signs.charAt(rest % 7));
+            }
+            int due = 0;
+            while (due < 5 && begins(text.substring(0, due + 1))) {
+                due++;
+            }
+            new Run().text(text.toString()).due(due, "firstError");
         }
     }
 

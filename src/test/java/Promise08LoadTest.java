@@ -51,6 +51,32 @@ public final class Promise08LoadTest extends PromiseTests {
         }
     }
 
+    @Sentence({NO_TEXT, NO_ROOM})
+    static void allShortBuffers() {
+        String signs = "0145*,x";
+        for (int length = 1; length <= 3; length++) {
+            for (int number = 0; number < Math.pow(7, length); number++) {
+                StringBuilder text = new StringBuilder();
+                for (int rest = number; text.length() < length; rest /= 7) {
+                    text.append(signs.charAt(rest % 7));
+                }
+                dueLoaded(text.toString());
+            }
+        }
+    }
+
+    /** On the last cell but one there is room for two. */
+    private static void dueLoaded(String text) {
+        Run x = new Run().text(text);
+        if (!text.matches("([0145]|[145][0145]|[14][0145][0145]|500)(,[0145]|\\*[145])?")) {
+            x.refused(ARGUMENT, "load", 142);
+        } else if (text.contains("*4") || text.contains("*5")) {
+            x.refused(STATE, "load", 142);
+        } else {
+            x.due(text.contains(",") ? 2 : 1, "load", 142);
+        }
+    }
+
     @Sentence({"It stands for as many cells of that height (one without the count).",
         "Returns how many cells were set."})
     static void countsOneAndMore() {

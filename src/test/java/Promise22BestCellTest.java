@@ -102,6 +102,17 @@ public final class Promise22BestCellTest extends PromiseTests {
                 .due(62, "bestCell", 0);
     }
 
+    @Sentence({BEST, "Returns the cell."})
+    static void onlyCellsOfTheTerrain() {
+        // A wall of two columns lets no cell see both corners of the last row; from beyond the terrain nothing stands
+        // in the way. Of the cells upon the wall (5, 1) is the first one to see a corner over the wall's edge.
+        Run x = new Run();
+        for (int y = 0; y < 12; y++) {
+            x.call("setHeight", 12 * y + 5, 500).call("setHeight", 12 * y + 6, 500);
+        }
+        x.stations(1, 132, 143).due(17, "bestCell", 0);
+    }
+
     @Sentence("Finds the best cell for another station")
     static void itChangesNothing() {
         Run.some().call("bestCell", 0).call("bestCell", 50).sameAs(Run.some());
