@@ -38,8 +38,8 @@ public final class DocumentTest {
     private void collect() throws IOException, ClassNotFoundException {
         List<String> names;
         try (Stream<Path> files = Files.list(TESTS)) {
-            names = files.map(file -> file.getFileName().toString()).filter(name -> name.matches("Promise\\d+.*Test.java"))
-                    .sorted().collect(Collectors.toList());
+            names = files.map(file -> file.getFileName().toString())
+                    .filter(name -> name.matches("Promise\\d+.*Test.java")).sorted().collect(Collectors.toList());
         }
         for (String name : names) {
             int promise = Integer.parseInt(name.replaceAll("\\D", ""));
