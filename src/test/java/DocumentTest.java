@@ -11,12 +11,18 @@ import java.util.regex.Pattern;
 import java.util.stream.Collectors;
 import java.util.stream.Stream;
 
-/** The tests against the document: each of its sentences has a test that bears it, and each test bears one of them. */
+/**
+ * The tests against the document: its face is the one that FaceTest wants, its examples hold as they are written there,
+ * each of its sentences has a test that bears it, and each test bears one of them.
+ */
 public final class DocumentTest {
 
     private static final Path DOCUMENT = Path.of("../shared/DOC.md");
     private static final Path TESTS = Path.of("src/test/java");
     private static final Pattern PROMISE = Pattern.compile("## Promise (\\d+): .*");
+    private static final Pattern METHOD = Pattern.compile("    public (\\w+ \\w+)\\(([^)]*)\\)(?: throws (.*))?;");
+    private static final Pattern EXAMPLE =
+            Pattern.compile("(\\w+)\\(([^)]*)\\) = (throws \\w+|-?\\d+(?:\\.\\d+)?)");
 
     /** For each promise the sentences that its tests bear. */
     private final Map<Integer, List<String>> borne = new TreeMap<>();
@@ -29,10 +35,40 @@ public final class DocumentTest {
         DocumentTest test = new DocumentTest();
         test.collect();
         List<String> lines = Files.readAllLines(DOCUMENT);
+        dueFace(lines);
+        dueExamples(lines);
         test.dueInTheDocument(String.join(" ", lines));
         test.dueDescriptionBorne(lines);
         test.duePromisesBorne(lines);
         Check.end();
+    }
+
+    /** A line of the face as FaceTest has it: the parameters by their types, the exceptions behind them. */
+    private static String faceLine(Matcher method) {
+        String types = method.group(2).replaceAll("(\\w+) \\w+(, )?", "$1,").replaceAll(",$", "");
+        String exceptions = method.group(3) == null ? "" : " " + method.group(3).replace(",", "");
+        return method.group(1) + "(" + types + ")" + exceptions;
+    }
+
+    private static void dueFace(List<String> lines) {
+        List<String> face = lines.stream().map(METHOD::matcher).filter(Matcher::matches).map(DocumentTest::faceLine)
+                .collect(Collectors.toList());
+        Check.same("the face that the tests want", face.toString(), List.of(FaceTest.FACE).toString());
+    }
+
+    private static void dueExamples(List<String> lines) {
+        int first = lines.indexOf(lines.stream().filter(line -> line.startsWith("Examples:")).findFirst().orElse(""));
+        int examples = 0;
+        for (int i = first + 1; i < lines.size() && lines.get(i).matches("\\d\\. .*"); i++) {
+            examples++;
+            Run run = new Run();
+            int calls = 0;
+            for (Matcher call = EXAMPLE.matcher(lines.get(i)); call.find(); calls++) {
+                run.written(call.group(3), call.group(1), call.group(2));
+            }
+            Check.same("calls in " + lines.get(i), "" + lines.get(i).split("; ").length, "" + calls);
+        }
+        Check.same("examples in the document", "4", "" + examples);
     }
 
     private void collect() throws IOException, ClassNotFoundException {

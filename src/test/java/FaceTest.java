@@ -1,21 +1,16 @@
-import java.io.IOException;
 import java.lang.reflect.Constructor;
 import java.lang.reflect.Field;
 import java.lang.reflect.Method;
 import java.lang.reflect.Modifier;
-import java.nio.file.Files;
-import java.nio.file.Path;
 import java.util.ArrayList;
 import java.util.List;
 import java.util.Set;
 import java.util.TreeSet;
-import java.util.regex.Matcher;
-import java.util.regex.Pattern;
 
-/** The public face, and those rules of LANGUAGE.md that a machine can look after. */
+/** The public face, and that nothing else is open (LANGUAGE.md, rule 1). */
 public final class FaceTest {
 
-    private static final String[] FACE = {
+    static final String[] FACE = {
         "int begin()",
         "int setHeight(int,int) IndexOutOfBoundsException IllegalArgumentException",
         "int hill(int,int,int) IndexOutOfBoundsException IllegalArgumentException",
@@ -45,17 +40,10 @@ public final class FaceTest {
         "long digest()"
     };
 
-    private static final String[] FORBIDDEN = {
-        "->", "::", "\\btry\\b", "\\bcatch\\b", "\\bfinally\\b", "\\bsynchronized\\b", "\\bassert\\b", "Exact\\b",
-        "\\bSystem\\.(?!arraycopy)", "\\bhashCode\\b", "\\btoString\\b", "\\bnew (?!int\\[|[A-Z])"
-    };
-
-    public static void main(String[] args) throws IOException {
+    public static void main(String[] args) {
         faceIsTheDocuments();
         nothingElseIsOpen();
         innerClassesKeepTheRules();
-        String source = Files.readString(Path.of(args[0]));
-        sourceKeepsTheRules(source.replaceAll("(?s)/\\*.*?\\*/", "").replaceAll("//[^\n]*", ""));
         Check.end();
     }
 
@@ -128,24 +116,5 @@ public final class FaceTest {
                 Check.same(method + " bears a public name", "false", "" + shadows);
             }
         }
-    }
-
-    private static void sourceKeepsTheRules(String source) {
-        for (String pattern : FORBIDDEN) {
-            Matcher matcher = Pattern.compile(pattern).matcher(source);
-            Check.same("what the rules forbid: " + pattern, "none", matcher.find() ? matcher.group() : "none");
-        }
-        Matcher imports = Pattern.compile("\\bimport ([^;]*);").matcher(source);
-        while (imports.find()) {
-            Check.same("import", "java.util.Arrays", imports.group(1));
-        }
-        Matcher throwing = Pattern.compile("\\bthrow ([^(]*)").matcher(source);
-        while (throwing.find()) {
-            String thrown = throwing.group(1);
-            boolean due = thrown.equals("new " + Check.INDEX) || thrown.equals("new " + Check.ARGUMENT)
-                    || thrown.equals("new " + Check.STATE);
-            Check.same("throw " + thrown, "true", "" + due);
-        }
-        Check.same("signs 1 to 127", "true", "" + source.chars().allMatch(c -> c >= 1 && c <= 127));
     }
 }

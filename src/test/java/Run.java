@@ -71,6 +71,14 @@ final class Run {
         return this;
     }
 
+    /** A call with its answer as a text shows them: the arguments between commas; a number, or "throws" and a name. */
+    Run written(String answer, String name, String arguments) {
+        if (answer.startsWith("throws ")) {
+            return refused(answer.substring("throws ".length()), name, Step.arguments(arguments));
+        }
+        return due(answer, name, Step.arguments(arguments));
+    }
+
     /** All is as after the other run. */
     void sameAs(Run other) {
         compare(other.again(), again(), "after what should come to the same" + told());

@@ -2,6 +2,7 @@ import java.lang.reflect.InvocationTargetException;
 import java.lang.reflect.Method;
 import java.util.HashMap;
 import java.util.Map;
+import java.util.regex.Pattern;
 
 /** A call by its name; no two methods of the face share one. */
 final class Step {
@@ -13,6 +14,12 @@ final class Step {
     Step(String name, int... arguments) {
         this.name = name;
         this.arguments = arguments;
+    }
+
+    /** Arguments as they are written in a call: numbers, and characters as '5'. */
+    static int[] arguments(String written) {
+        return written.isEmpty() ? new int[0] : Pattern.compile(", ").splitAsStream(written)
+                .mapToInt(one -> one.startsWith("'") ? one.charAt(1) : Integer.parseInt(one)).toArray();
     }
 
     private static Map<String, Method> face() {
